@@ -1,0 +1,72 @@
+import java.lang.reflect.Constructor;
+import java.lang.reflect.Field;
+import java.lang.reflect.Method;
+import java.lang.reflect.Modifier;
+import java.util.Set;
+import java.util.TreeSet;
+
+// The public face is the document's, with no other member that is not private (LANGUAGE.md, rule 1).
+public final class PairThreadsFace {
+    private static final Set<String> FACE = Set.of(
+            "public static final int PairThreads.NONE",
+            "public static final int PairThreads.FULL",
+            "public PairThreads()",
+            "public int PairThreads.link(int,int)",
+            "public int PairThreads.unlink(int,int)",
+            "public int PairThreads.place(int,int)",
+            "public int PairThreads.degree(int,int)",
+            "public int PairThreads.other(int,int,int)",
+            "public int PairThreads.drop(int,int)",
+            "public int PairThreads.rename(int,int,int)",
+            "public int PairThreads.at(int,int)",
+            "public int PairThreads.count(int)",
+            "public int PairThreads.part(int,int)",
+            "public int PairThreads.way(int,int,int,int)",
+            "public int PairThreads.clear()",
+            "public int PairThreads.check()");
+
+    private static Set<String> visible() {
+        Set<String> found = new TreeSet<>();
+        for (Field f : PairThreads.class.getDeclaredFields()) {
+            if (!Modifier.isPrivate(f.getModifiers())) {
+                found.add(f.toString());
+            }
+        }
+        for (Constructor<?> c : PairThreads.class.getDeclaredConstructors()) {
+            if (!Modifier.isPrivate(c.getModifiers())) {
+                found.add(c.toString());
+            }
+        }
+        for (Method m : PairThreads.class.getDeclaredMethods()) {
+            if (!Modifier.isPrivate(m.getModifiers())) {
+                found.add(m.toString());
+            }
+        }
+        return found;
+    }
+
+    public static void main(String[] args) {
+        int wrong = 0;
+        Set<String> found = visible();
+        if (!found.equals(FACE)) {
+            wrong++;
+            System.out.println("the face is " + found + ", due is " + new TreeSet<>(FACE));
+        }
+        int modifiers = PairThreads.class.getModifiers();
+        if (!Modifier.isPublic(modifiers) || !Modifier.isFinal(modifiers)) {
+            wrong++;
+            System.out.println("the class is not public and final");
+        }
+        for (Class<?> inside : PairThreads.class.getDeclaredClasses()) {
+            int m = inside.getModifiers();
+            if (!Modifier.isStatic(m) || Modifier.isPublic(m) || Modifier.isProtected(m)) {
+                wrong++;
+                System.out.println(inside + " is not static, or can be seen outside");
+            }
+        }
+        System.out.println(wrong == 0 ? "the face is as due" : "the face is not as due");
+        if (wrong != 0) {
+            System.exit(1);
+        }
+    }
+}
