@@ -6,7 +6,11 @@ import java.util.Set;
 
 // Long runs of calls, the same each time, against a model that has nothing but a list of pairs.
 public final class PairThreadsAgainstModel {
+    /** Nothing is promised behind these. */
     private static final int CALLS = 512;
+    /** How many of a run's calls look at what came of the others. */
+    private static final int[] LOOKS = {0, 8, 40, 128, 200};
+    private static final int[] EDGES = {Integer.MIN_VALUE, -300, -2, -1, 2, 5, 299, 300, 301, Integer.MAX_VALUE};
     private static int wrong = 0;
 
     private record Pair(int left, int right) {
@@ -229,8 +233,27 @@ public final class PairThreadsAgainstModel {
         return n == range ? Integer.MIN_VALUE : n == range + 1 ? Integer.MAX_VALUE : n - range / 4;
     }
 
+    private static int edge(Random random) {
+        return EDGES[random.nextInt(EDGES.length)];
+    }
+
     private static int side(Random random) {
-        return random.nextInt(25) == 0 ? random.nextInt(5) - 2 : random.nextInt(2);
+        int n = random.nextInt(50);
+        return n == 0 ? edge(random) : n == 1 ? random.nextInt(5) - 2 : random.nextInt(2);
+    }
+
+    /** A place, or which of a number's pairs: often within the pairs, often just at their edge. */
+    private static int nth(Random random, int pairs) {
+        switch (random.nextInt(8)) {
+            case 0: return edge(random);
+            case 1: return pairs + random.nextInt(3) - 1;
+            case 2: case 3: return random.nextInt(pairs + 1);
+            default: return random.nextInt(12) - 2;
+        }
+    }
+
+    private static int what(Random random) {
+        return random.nextInt(20) == 0 ? edge(random) : random.nextInt(7) - 1;
     }
 
     /** How often links come, and over how many numbers, makes runs sparse, dense or full. */
@@ -238,48 +261,60 @@ public final class PairThreadsAgainstModel {
         Random random = new Random(run);
         PairThreads x = new PairThreads();
         Model m = new Model();
-        for (int call = 0; call < CALLS; call++) {
-            int s = side(random);
-            int t = side(random);
+        int looks = LOOKS[run % LOOKS.length];
+        for (int call = 0; call < CALLS - looks; call++) {
             int v = number(random, range);
             int w = number(random, range);
-            int i = random.nextInt(12) - 2;
             if (random.nextInt(10) < linksInTen) {
                 due(run, call, "link(" + v + ", " + w + ")", x.link(v, w), m.link(v, w));
-                continue;
-            }
-            switch (random.nextInt(16)) {
-                case 0: due(run, call, "unlink(" + v + ", " + w + ")", x.unlink(v, w), m.unlink(v, w)); break;
-                case 1: due(run, call, "place(" + v + ", " + w + ")", x.place(v, w), m.place(v, w)); break;
-                case 2: due(run, call, "degree(" + s + ", " + v + ")", x.degree(s, v), m.degree(s, v)); break;
-                case 3: due(run, call, "other(" + s + ", " + v + ", " + i + ")", x.other(s, v, i), m.other(s, v, i)); break;
-                case 4: due(run, call, "drop(" + s + ", " + v + ")", x.drop(s, v), m.drop(s, v)); break;
-                case 5: case 6:
-                    due(run, call, "rename(" + s + ", " + v + ", " + w + ")", x.rename(s, v, w), m.rename(s, v, w)); break;
-                case 7: case 8: case 9: due(run, call, "count(" + i + ")", x.count(i), m.count(i)); break;
-                case 10: due(run, call, "part(" + s + ", " + v + ")", x.part(s, v), m.part(s, v)); break;
-                case 11: case 12:
-                    due(run, call, "way(" + s + ", " + v + ", " + t + ", " + w + ")", x.way(s, v, t, w), m.way(s, v, t, w)); break;
-                case 13: due(run, call, "check()", x.check(), 1); break;
-                case 14: due(run, call, "at(" + i + ", " + s + ")", x.at(i, s), m.at(i, s)); break;
-                default:
-                    if (random.nextInt(8) == 0) {
-                        due(run, call, "clear()", x.clear(), m.clear());
-                    }
+            } else {
+                otherCall(run, call, random, x, m, v, w);
             }
         }
-        compareAll(run, x, m);
+        look(run, x, m, looks);
     }
 
-    private static void compareAll(int run, PairThreads x, Model m) {
-        for (int i = -1; i <= 300; i++) {
-            due(run, CALLS, "at(" + i + ", 0)", x.at(i, 0), m.at(i, 0));
-            due(run, CALLS, "at(" + i + ", 1)", x.at(i, 1), m.at(i, 1));
+    private static void otherCall(int run, int call, Random random, PairThreads x, Model m, int v, int w) {
+        int s = side(random);
+        int t = side(random);
+        int i = nth(random, m.pairs.size());
+        int k = what(random);
+        switch (random.nextInt(16)) {
+            case 0: due(run, call, "unlink(" + v + ", " + w + ")", x.unlink(v, w), m.unlink(v, w)); break;
+            case 1: due(run, call, "place(" + v + ", " + w + ")", x.place(v, w), m.place(v, w)); break;
+            case 2: due(run, call, "degree(" + s + ", " + v + ")", x.degree(s, v), m.degree(s, v)); break;
+            case 3: due(run, call, "other(" + s + ", " + v + ", " + i + ")", x.other(s, v, i), m.other(s, v, i)); break;
+            case 4: due(run, call, "drop(" + s + ", " + v + ")", x.drop(s, v), m.drop(s, v)); break;
+            case 5: case 6:
+                due(run, call, "rename(" + s + ", " + v + ", " + w + ")", x.rename(s, v, w), m.rename(s, v, w)); break;
+            case 7: case 8: case 9: due(run, call, "count(" + k + ")", x.count(k), m.count(k)); break;
+            case 10: due(run, call, "part(" + s + ", " + v + ")", x.part(s, v), m.part(s, v)); break;
+            case 11: case 12:
+                due(run, call, "way(" + s + ", " + v + ", " + t + ", " + w + ")", x.way(s, v, t, w), m.way(s, v, t, w)); break;
+            case 13: due(run, call, "check()", x.check(), 1); break;
+            case 14: due(run, call, "at(" + i + ", " + s + ")", x.at(i, s), m.at(i, s)); break;
+            default:
+                if (random.nextInt(8) == 0) {
+                    due(run, call, "clear()", x.clear(), m.clear());
+                }
         }
-        for (int what = -1; what <= 5; what++) {
-            due(run, CALLS, "count(" + what + ")", x.count(what), m.count(what));
+    }
+
+    /** The calls that are left go to the counts, and then to the pairs from the last place on, back. */
+    private static void look(int run, PairThreads x, Model m, int looks) {
+        int call = CALLS - looks;
+        for (int k = 0; k <= 4 && call < CALLS; k++) {
+            due(run, call, "count(" + k + ")", x.count(k), m.count(k));
+            call++;
         }
-        due(run, CALLS, "check()", x.check(), 1);
+        for (int i = m.pairs.size(); i >= 0 && call < CALLS - 2; i--) {
+            due(run, call, "at(" + i + ", 0)", x.at(i, 0), m.at(i, 0));
+            due(run, call + 1, "at(" + i + ", 1)", x.at(i, 1), m.at(i, 1));
+            call += 2;
+        }
+        if (call < CALLS) {
+            due(run, call, "check()", x.check(), 1);
+        }
     }
 
     public static void main(String[] args) {

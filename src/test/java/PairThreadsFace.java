@@ -5,7 +5,8 @@ import java.lang.reflect.Modifier;
 import java.util.Set;
 import java.util.TreeSet;
 
-// The public face is the document's, with no other member that is not private (LANGUAGE.md, rule 1).
+// The public face is the document's, with no other member that is not private, and no private method
+// bears the name of a public one (LANGUAGE.md, rule 1).
 public final class PairThreadsFace {
     private static final Set<String> FACE = Set.of(
             "public static final int PairThreads.NONE",
@@ -45,8 +46,47 @@ public final class PairThreadsFace {
         return found;
     }
 
+    private static Set<String> privateWithAPublicName() {
+        Set<String> found = new TreeSet<>();
+        for (Class<?> inside : PairThreads.class.getDeclaredClasses()) {
+            addPrivateWithAPublicName(inside, found);
+        }
+        addPrivateWithAPublicName(PairThreads.class, found);
+        return found;
+    }
+
+    private static void addPrivateWithAPublicName(Class<?> of, Set<String> found) {
+        for (Method m : of.getDeclaredMethods()) {
+            boolean isPublic = Modifier.isPublic(m.getModifiers());
+            if (!isPublic && FACE.stream().anyMatch(f -> f.contains("." + m.getName() + "("))) {
+                found.add(m.toString());
+            }
+        }
+    }
+
+    /** The compiler takes only a constant as a label, so it looks at their being constants. */
+    private static String constant(int answer) {
+        switch (answer) {
+            case PairThreads.NONE:
+                return "NONE";
+            case PairThreads.FULL:
+                return "FULL";
+            default:
+                return "neither";
+        }
+    }
+
     public static void main(String[] args) {
         int wrong = 0;
+        if (!constant(-1).equals("NONE") || !constant(-2).equals("FULL")) {
+            wrong++;
+            System.out.println("NONE is " + PairThreads.NONE + ", FULL is " + PairThreads.FULL + ", due are -1 and -2");
+        }
+        Set<String> privates = privateWithAPublicName();
+        if (!privates.isEmpty()) {
+            wrong++;
+            System.out.println("not public, with the name of a public method: " + privates);
+        }
         Set<String> found = visible();
         if (!found.equals(FACE)) {
             wrong++;
