@@ -6,7 +6,7 @@ import java.util.Set;
 import java.util.TreeSet;
 
 // The public face is the document's, with no other member that is not private, and no private method
-// bears the name of a public one (LANGUAGE.md, rule 1).
+// bears the name of a public one (LANGUAGE.md, rule 1); no state is held in common by objects (rule 5).
 public final class PairThreadsFace {
     private static final Set<String> FACE = Set.of(
             "public static final int PairThreads.NONE",
@@ -48,10 +48,10 @@ public final class PairThreadsFace {
 
     private static Set<String> privateWithAPublicName() {
         Set<String> found = new TreeSet<>();
+        addPrivateWithAPublicName(PairThreads.class, found);
         for (Class<?> inside : PairThreads.class.getDeclaredClasses()) {
             addPrivateWithAPublicName(inside, found);
         }
-        addPrivateWithAPublicName(PairThreads.class, found);
         return found;
     }
 
@@ -60,6 +60,24 @@ public final class PairThreadsFace {
             boolean isPublic = Modifier.isPublic(m.getModifiers());
             if (!isPublic && FACE.stream().anyMatch(f -> f.contains("." + m.getName() + "("))) {
                 found.add(m.toString());
+            }
+        }
+    }
+
+    private static Set<String> staticState() {
+        Set<String> found = new TreeSet<>();
+        addStaticState(PairThreads.class, found);
+        for (Class<?> inside : PairThreads.class.getDeclaredClasses()) {
+            addStaticState(inside, found);
+        }
+        return found;
+    }
+
+    private static void addStaticState(Class<?> of, Set<String> found) {
+        for (Field f : of.getDeclaredFields()) {
+            boolean isConstant = Modifier.isFinal(f.getModifiers()) && f.getType() == int.class;
+            if (Modifier.isStatic(f.getModifiers()) && !isConstant) {
+                found.add(f.toString());
             }
         }
     }
@@ -81,6 +99,11 @@ public final class PairThreadsFace {
         if (!constant(-1).equals("NONE") || !constant(-2).equals("FULL")) {
             wrong++;
             System.out.println("NONE is " + PairThreads.NONE + ", FULL is " + PairThreads.FULL + ", due are -1 and -2");
+        }
+        Set<String> statics = staticState();
+        if (!statics.isEmpty()) {
+            wrong++;
+            System.out.println("static, and no constant: " + statics);
         }
         Set<String> privates = privateWithAPublicName();
         if (!privates.isEmpty()) {
